@@ -705,7 +705,7 @@ public final class RateTree {
                 one = other;
                 other = rest;
             }
-            return Math.max(1, one);
+            return one > 0 ? one : 1;
         }
     }
 

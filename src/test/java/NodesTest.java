@@ -253,6 +253,17 @@ public final class NodesTest {
         x.set(5, 60);
         Due.due("9 lower number BEYOND", x.rate(5, 0), LOST);
         Due.due("9 not healed by what comes of it", x.rate(6, 0), LOST);
+        RateTree y = new RateTree();
+        y.source(1);
+        int[] by = {50, 50, 50, 50, 40, 4};
+        for (int n = 0; n < by.length; n++) {
+            y.stage(2, n, by[n], by[n] + 1);
+        }
+        Due.due("9 just the greatest lower number", y.rate(6, 1), 1000000000);
+        Due.due("9 its upper one", y.rate(6, 0), 1);
+        Due.due("9 well", y.about(6, 7), 1);
+        y.set(6, 5);
+        Due.due("9 the next", y.rate(6, 1), LOST);
     }
 
     private static void about() {

@@ -15,7 +15,10 @@ public final class SheetsTest {
 
     private static void sheet() {
         RateTree x = new RateTree();
+        x.put(0, 0, 0);
         Due.due("25 sheet 4", x.sheet(4, 9, -1), RateTree.UNKNOWN);
+        Due.due("34 refused", x.fault(), 0);
+        x.put(0, 0, 0);
         Due.due("25 sheet -1", x.sheet(-1, 0, 1), RateTree.UNKNOWN);
         Due.due("25 lane 3, ahead of SIZE", x.sheet(0, 3, -1), RateTree.OUTSIDE);
         Due.due("25 lane -1", x.sheet(0, -1, 1), RateTree.OUTSIDE);
@@ -67,6 +70,8 @@ public final class SheetsTest {
         Due.due("27 sheet 4", x.put(4, -1, 1), RateTree.UNKNOWN);
         Due.due("27 nothing, ahead of INDEX", x.put(0, -1, 1), -11);
         Due.due("34 NULL", x.fault(), 1);
+        x.put(-1, 0, 1);
+        Due.due("34 refused", x.fault(), 0);
         int[] values = {0, 1, 127, 128, -128, -129, 255, 256, 32767, 32768, -32768, -32769, 65536,
             Integer.MAX_VALUE, Integer.MIN_VALUE};
         for (int lane = 0; lane < 3; lane++) {
@@ -118,6 +123,7 @@ public final class SheetsTest {
         x.sheet(0, 0, 4);
         x.sheet(1, 1, 4);
         x.sheet(2, 0, 3);
+        x.put(3, 0, 0);
         Due.due("29 sheet 4", x.copy(4, 0, 0, 0, 0), RateTree.UNKNOWN);
         Due.due("29 other 4, ahead of NULL", x.copy(3, 0, 4, 0, 0), RateTree.UNKNOWN);
         Due.due("34 refused", x.fault(), 0);

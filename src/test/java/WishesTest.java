@@ -17,6 +17,7 @@ public final class WishesTest {
         searchWithLocks();
         searchForModes();
         searchOfTwentyThousand();
+        searchOfSixteenNodesAndTwelveWishes();
         hopeless();
         planned();
         Due.end();
@@ -201,7 +202,9 @@ public final class WishesTest {
         Due.due("22 no steps", x.change(), 0);
         Due.due("24 none done", x.go(), 0);
         Due.due("19 no node", x.planned(0), RateTree.UNKNOWN);
+        Due.due("22 no steps", x.change(), 0);
         x.source(1);
+        Due.due("24 gone behind the first node", x.go(), RateTree.STATE);
         Due.due("19 came behind it", x.planned(0), RateTree.UNKNOWN);
         Due.due("22 came behind it", x.change(), RateTree.STATE);
         Due.due("18 nothing wished", x.hopeless(1), 0);
@@ -407,6 +410,8 @@ public final class WishesTest {
         // Power: the divider's rate is least with 25.
         Due.due("17 plan", x.planned(2), 25);
         Due.due("17 plan", x.planned(3), 25);
+        x.wish(0, 1, 1, 1, 0);
+        Due.due("18 just 20000", x.hopeless(0), 8);
         RateTree y = new RateTree();
         y.source(1000);
         y.stage(1, 0, 1, 47);
@@ -416,6 +421,29 @@ public final class WishesTest {
         Due.due("17 more than 20000", y.search(0), RateTree.SPENT);
         Due.due("18 more than 20000", y.hopeless(0), RateTree.SPENT);
         Due.due("21 none", y.tried(), 0);
+    }
+
+    private static void searchOfSixteenNodesAndTwelveWishes() {
+        RateTree x = new RateTree();
+        x.source(10);
+        for (int n = 1; n < 16; n++) {
+            x.gate(n - 1);
+            x.set(n, 1);
+            x.lock(n, n < 5);
+        }
+        for (int w = 0; w < 11; w++) {
+            Due.due("13 a wish", x.wish(1, 15 - w, 10 + w, 1, 500), w);
+        }
+        x.multiple(1, 15, 0, 1);
+        Due.due("17 the last wish misses most", x.search(1), 500);
+        Due.due("21 rows", x.tried(), 2048);
+        for (int n = 1; n < 16; n++) {
+            Due.due("17 all are open", x.planned(n), 1);
+        }
+        Due.due("18 all can be met", x.hopeless(1), 0);
+        x.limits(15, 0, 9);
+        Due.due("17 the last must be shut", x.search(1), RateTree.NONE);
+        Due.due("18 then the first and the last wish can not be met", x.hopeless(1), 1 + 2048);
     }
 
     private static void hopeless() {
