@@ -650,8 +650,8 @@ public final class RateTree {
             }
         }
 
-        // Upper and lower number share no divisor, so only one of them can share one with the setting. Of a rate that
-        // is BEYOND both are 0, and stay so.
+        // Upper and lower number share no divisor, so what there is to cut comes from the setting alone. Of a rate that
+        // is BEYOND both numbers are 0, and stay so.
         private void multiply(int n, int of, int setting) {
             long shared = sharedBy(lower[of], setting);
             keep(n, upper[of] * (setting / shared), lower[of] / shared);
