@@ -1,4 +1,3 @@
-import java.lang.reflect.Method;
 import java.util.HashMap;
 import java.util.Map;
 import java.util.Random;
@@ -11,15 +10,14 @@ public final class ModelTest {
         1000001, 1000000000, 1000000001, Integer.MAX_VALUE, Integer.MIN_VALUE, -10};
 
     private final Random dice;
-    private final RateTree tree = new RateTree();
+    private final Face tree = Face.of(new RateTree());
     private final Model model = new Model();
+    private final Face told = Face.of(model);
     private final StringBuilder log = new StringBuilder();
     private final boolean isWide;
     private final boolean isHigh;
     private int calls;
     private boolean isWrong;
-    private static final Map<String, Method> ofTree = new HashMap<>();
-    private static final Map<String, Method> ofModel = new HashMap<>();
     private static final Map<String, Map<String, Integer>> seen = new HashMap<>();
 
     private ModelTest(long seed) {
@@ -28,13 +26,7 @@ public final class ModelTest {
         isHigh = dice.nextInt(4) == 0;
     }
 
-    public static void main(String[] args) throws Exception {
-        for (Method m : RateTree.class.getDeclaredMethods()) {
-            if (java.lang.reflect.Modifier.isPublic(m.getModifiers())) {
-                ofTree.put(m.getName(), m);
-                ofModel.put(m.getName(), Model.class.getDeclaredMethod(m.getName(), m.getParameterTypes()));
-            }
-        }
+    public static void main(String[] args) {
         for (int seed = 0; seed < RUNS; seed++) {
             ModelTest run = new ModelTest(seed);
             run.play();
@@ -74,13 +66,13 @@ public final class ModelTest {
         }
     }
 
-    private void call(String name, Object... args) throws Exception {
+    private void call(String name, Object... args) {
         if (isWrong || calls >= CALLS) {
             return;
         }
         calls++;
-        long got = ((Number) ofTree.get(name).invoke(tree, args)).longValue();
-        long want = ((Number) ofModel.get(name).invoke(model, args)).longValue();
+        long got = tree.call(name, args);
+        long want = told.call(name, args);
         count(name, got);
         log.append(name).append(java.util.Arrays.toString(args)).append(" = ").append(got).append('\n');
         if (got != want) {
@@ -109,7 +101,7 @@ public final class ModelTest {
         return seldom(40) ? odd() : least + dice.nextInt(most - least + 1);
     }
 
-    private void play() throws Exception {
+    private void play() {
         int start = isWide ? 10 + below(7) : 2 + below(5);
         for (int i = 0; i < start; i++) {
             grow();
@@ -119,7 +111,7 @@ public final class ModelTest {
         }
     }
 
-    private void grow() throws Exception {
+    private void grow() {
         int kind = model.parts.isEmpty() ? 0 : below(isWide && model.parts.size() < 16 ? 24 : 12);
         if (kind < 1) {
             call("source", isHigh ? from(900000, 1000000) : from(1, 60));
@@ -134,7 +126,7 @@ public final class ModelTest {
         }
     }
 
-    private void act(int which) throws Exception {
+    private void act(int which) {
         switch (which) {
             case 0, 1 -> growSeldom();
             case 2, 3, 4 -> limit();
@@ -161,13 +153,13 @@ public final class ModelTest {
         }
     }
 
-    private void growSeldom() throws Exception {
+    private void growSeldom() {
         if (seldom(isWide ? 3 : 8)) {
             grow();
         }
     }
 
-    private void turn(int n) throws Exception {
+    private void turn(int n) {
         call("set", n, setting(n));
     }
 
@@ -185,7 +177,7 @@ public final class ModelTest {
     }
 
     /** Limits near what the node gives, so that they bite now and then and do not shut all. */
-    private void limit() throws Exception {
+    private void limit() {
         int n = node();
         long rate = n < 0 || n >= model.parts.size() || model.rate(n, 0) < 0 ? 100 : model.rate(n, 0) / model.rate(n, 1);
         if (seldom(3)) {
@@ -197,7 +189,7 @@ public final class ModelTest {
         }
     }
 
-    private void look() throws Exception {
+    private void look() {
         call("rate", node(), from(0, 1));
         call("about", node(), from(0, 9));
         call("sound");
@@ -211,7 +203,7 @@ public final class ModelTest {
         call("step", from(0, 12));
     }
 
-    private void hope() throws Exception {
+    private void hope() {
         if (seldom(3) && model.hopes.size() > 3) {
             return;
         }
@@ -226,7 +218,7 @@ public final class ModelTest {
             seldom(4) ? from(0, 999) : from(500, 999));
     }
 
-    private void makePlan() throws Exception {
+    private void makePlan() {
         int many = model.parts.size();
         int lane = below(3);
         int at = below(3);
@@ -243,7 +235,7 @@ public final class ModelTest {
         change();
     }
 
-    private void change() throws Exception {
+    private void change() {
         call("change");
         for (int i = 0; i < 13 && !seldom(12); i++) {
             call("step", i);
