@@ -446,6 +446,52 @@ public final class ChangeEdgesTest {
         }
     }
 
+    /** Each choice passes on what the one ahead of it gives, which it can't bear once that one is changed. */
+    @Edge(of = 0, says = "Of all such rows (they are as long as there are others) the first, by the NODES' numbers.")
+    private static void changeOfTwelveFromTheLastToTheFirst() {
+        RateTree x = Made.sources(200, 100, 300);
+        int[] row = new int[15];
+        int of = 0;
+        for (int n = 3; n < 15; n++) {
+            boolean isOdd = n % 2 == 1;
+            of = x.choice(of, isOdd ? 1 : 2);
+            x.limits(of, isOdd ? 100 : 200, isOdd ? 200 : 300);
+            row[n] = 1;
+        }
+        Made.plan(x, row);
+        steps(x, 14, 13, 12, 11, 10, 9, 8, 7, 6, 5, 4, 3);
+    }
+
+    /** Every set of changed nodes but the whole is sound: each must be given up once, not once for each order. */
+    @Edge(of = 0, says = "(All rows are tried by sets of NODES changed")
+    private static void changeOfTwelveThatIsNoneAtItsEnd() {
+        RateTree x = Made.sources(1);
+        int[] row = new int[13];
+        for (int n = 1; n < 13; n++) {
+            x.stage(1, n - 1, 1, 2);
+            row[n] = 2;
+        }
+        x.limits(12, 0, 4095);
+        Made.plan(x, row);
+        Due.due("change()", x.change(), NONE);
+        x.limits(12, 0, 4096);
+        steps(x, 1, 2, 3, 4, 5, 6, 7, 8, 9, 10, 11, 12);
+    }
+
+    /** 2 alone is sound and leads nowhere: neither 1 nor 3 can follow it; with 3 and 1 changed it can be the last. */
+    @Edge(of = 0, says = "(All rows are tried by sets of NODES changed")
+    private static void changeByASetBesideOneThatLeadsNowhere() {
+        RateTree x = Made.sources(100);
+        x.stage(1, 0, 1, 8);
+        x.stage(1, 1, 1, 2);
+        x.stage(1, 2, 1, 4);
+        x.set(2, 2);
+        x.set(3, 4);
+        x.limits(3, 200, 1600);
+        Made.plan(x, 0, 8, 1, 1);
+        steps(x, 3, 1, 2);
+    }
+
     // ---- 23 step
 
     @Edge(of = 23, says = "UNKNOWN")
@@ -498,6 +544,16 @@ public final class ChangeEdgesTest {
     @Edge(of = 23, says = "(it is gone behind any source(), stage(), choice(), gate()")
     private static void goneBehindSource() {
         gone(x -> x.source(1));
+    }
+
+    @Edge(of = 23, says = "(it is gone behind any source(), stage(), choice(), gate()")
+    private static void goneBehindTheVeryFirstSource() {
+        RateTree x = new RateTree();
+        x.search(0);
+        Due.due("a change of nothing", x.change(), 0);
+        x.source(1);
+        Due.due("told(5)", x.told(5), NONE);
+        Due.due("go()", x.go(), STATE);
     }
 
     @Edge(of = 23, says = "(it is gone behind any source(), stage(), choice(), gate()")

@@ -90,6 +90,19 @@ public final class SheetEdgesTest {
         Due.due("behind it", x.cell(0, 1, 0), 0);
     }
 
+    @Edge(of = 25, says = {"A SHEET gets a new row: 1.", "a row of 0 .. 24 numbers (0 at first)"})
+    private static void sheetAnewIsOfZerosInAllItsCells() {
+        RateTree x = new RateTree();
+        x.sheet(3, 2, 24);
+        for (int i = 0; i < 24; i++) {
+            x.put(3, i, i + 1);
+        }
+        x.sheet(3, 2, 24);
+        for (int i = 0; i < 24; i++) {
+            Due.due("cell " + i, x.cell(3, i, 2), 0);
+        }
+    }
+
     @Edge(of = 25, says = "A SHEET gets a new row: 1.")
     private static void sheetAnewIsOfItsOwnLength() {
         RateTree x = Made.rich();

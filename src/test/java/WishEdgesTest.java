@@ -603,6 +603,22 @@ public final class WishEdgesTest {
         Due.due("planned(2)", x.planned(2), 3);
     }
 
+    @Edge(of = 17, says = "A SEARCH: BEST becomes the PLAN: its greatest MISS")
+    private static void searchAnewForNodesAndWishesThatCameBehindOne() {
+        RateTree x = Made.sources(10);
+        x.wish(0, 0, 10, 1, 0);
+        Due.due("search(0)", x.search(0), 0);
+        x.stage(1, 0, 1, 4);
+        x.wish(1, 1, 30, 1, 0);
+        Due.due("search(1)", x.search(1), 0);
+        Due.due("planned(1)", x.planned(1), 3);
+        Due.due("search(0) again", x.search(0), 0);
+        Due.due("planned(1)", x.planned(1), 1);
+        x.wish(0, 1, 40, 1, 0);
+        Due.due("search(0) with a wish more", x.search(0), 0);
+        Due.due("planned(1)", x.planned(1), 4);
+    }
+
     /** A choice, node 2, of two sources, and a wish of mode 0 for it. */
     private static RateTree pick(int first, int second, int a, int e) {
         RateTree x = Made.sources(first, second);
@@ -794,6 +810,31 @@ public final class WishEdgesTest {
         x.set(2, 1);
         x.lock(2, true);
         Due.due("as it is", x.hopeless(0), 0);
+    }
+
+    @Edge(of = 0, says = "a WISH of the MODE that is MET by no row that is SOUND")
+    private static void hopelessIfNoRowIsSound() {
+        RateTree x = Made.sources(10);
+        x.limits(0, 20, 30);
+        x.wish(0, 0, 10, 1, 0);
+        x.wish(1, 0, 10, 1, 0);
+        Due.due("hopeless(0)", x.hopeless(0), 1);
+        Due.due("hopeless(1)", x.hopeless(1), 2);
+        Due.due("hopeless(2)", x.hopeless(2), 0);
+    }
+
+    @Edge(of = 18, says = "WISHES of a MODE that CAN NOT BE MET, a bit for each.")
+    private static void hopelessBehindASearch() {
+        RateTree x = Made.sources(10);
+        x.stage(1, 0, 1, 4);
+        x.wish(0, 1, 20, 1, 0);
+        x.wish(0, 1, 30, 1, 0);
+        x.wish(0, 1, 50, 1, 0);
+        Due.due("hopeless(0)", x.hopeless(0), 4);
+        Due.due("search(0)", x.search(0), NONE);
+        Due.due("hopeless(0) behind it", x.hopeless(0), 4);
+        Due.due("search(1)", x.search(1), 0);
+        Due.due("hopeless(1) behind it", x.hopeless(1), 0);
     }
 
     @Edge(of = 18, says = "WISHES of a MODE that CAN NOT BE MET, a bit for each.")
