@@ -14,15 +14,10 @@ import java.util.regex.Pattern;
 
 /** The public face of the document, and those rules of LANGUAGE.md that a look at the file can tell. */
 public final class LanguageTest {
-    private static final String[] FACE = {"int source(int)", "int stage(int, int, int, int)", "int choice(int, int)",
-        "int gate(int)", "int limits(int, int, int)", "int set(int, int)", "int lock(int, boolean)",
-        "long rate(int, int)", "int about(int, int)", "int sound()", "long power()",
-        "int wish(int, int, int, int, int)", "int multiple(int, int, int, int)", "int miss(int)",
-        "int wished(int, int)", "int search(int)", "int hopeless(int)", "int planned(int)",
-        "int plan(int, int, int)", "int tried()", "int change()", "int step(int)", "int go()",
-        "int sheet(int, int, int)", "int lose(int)", "int put(int, int, int)", "long cell(int, int, int)",
-        "int copy(int, int, int, int, int)", "int tell(int)", "int spread(int)", "int as(int, int)", "int trace()",
-        "int fault()", "int told(int)"};
+    private static final Path DOCUMENT = Path.of("../shared/DOC.md");
+    private static final Pattern CALL = Pattern.compile("public (int|long) (\\w+)\\((.*?)\\);");
+    private static final int CALLS = 34;
+    private static final int CONSTANT = Modifier.PUBLIC | Modifier.STATIC | Modifier.FINAL;
 
     public static void main(String[] args) throws Exception {
         constants();
@@ -43,21 +38,26 @@ public final class LanguageTest {
         Due.due("LOST", RateTree.LOST, Long.MIN_VALUE);
     }
 
-    private static void face() {
-        Set<String> due = new TreeSet<>(Arrays.asList(FACE));
+    private static void face() throws Exception {
+        Set<String> due = faceOfDocument();
         Set<String> is = new TreeSet<>();
         Set<String> constants = new TreeSet<>();
         for (Method m : RateTree.class.getDeclaredMethods()) {
             if (isOpen(m)) {
                 String types = Arrays.toString(m.getParameterTypes());
                 is.add(m.getReturnType() + " " + m.getName() + "(" + types.substring(1, types.length() - 1) + ")");
+                Due.due(m.getName() + " is public and no more", m.getModifiers(), Modifier.PUBLIC);
             }
         }
         for (Field f : RateTree.class.getDeclaredFields()) {
             if (isOpen(f)) {
                 constants.add(f.getName());
+                Due.due(f.getName() + " is public, static and final", f.getModifiers(), CONSTANT);
+                Class<?> type = f.getName().equals("LOST") ? long.class : int.class;
+                Due.holds(f.getName() + " is of type " + type, f.getType() == type);
             }
         }
+        Due.due("calls in the document", due.size(), CALLS);
         Due.holds("the methods are those of the document: " + is, is.equals(due));
         Due.holds("so are the constants", constants.equals(Set.of("UNKNOWN", "OUTSIDE", "STATE", "FULL", "SPENT", "NONE", "LOST")));
         Constructor<?>[] made = RateTree.class.getDeclaredConstructors();
@@ -66,21 +66,32 @@ public final class LanguageTest {
         Due.holds("public and final", RateTree.class.getModifiers() == (Modifier.PUBLIC | Modifier.FINAL));
     }
 
+    /** The calls as they stand in the document, without the names of what they take. */
+    private static Set<String> faceOfDocument() throws Exception {
+        Set<String> calls = new TreeSet<>();
+        Matcher call = CALL.matcher(Files.readString(DOCUMENT));
+        while (call.find()) {
+            calls.add(call.group(1) + " " + call.group(2) + "(" + call.group(3).replaceAll("(int|boolean) \\w+", "$1") + ")");
+        }
+        return calls;
+    }
+
     private static boolean isOpen(Member m) {
         return !Modifier.isPrivate(m.getModifiers()) && !m.isSynthetic();
     }
 
-    private static void classes() {
+    private static void classes() throws Exception {
+        Set<String> face = faceOfDocument();
         Class<?>[] inside = RateTree.class.getDeclaredClasses();
         Due.holds("some twelve classes", inside.length < 12);
-        checkClass(RateTree.class);
+        checkClass(RateTree.class, face);
         for (Class<?> c : inside) {
             Due.holds(c + " is static", Modifier.isStatic(c.getModifiers()));
-            checkClass(c);
+            checkClass(c, face);
         }
     }
 
-    private static void checkClass(Class<?> c) {
+    private static void checkClass(Class<?> c, Set<String> face) {
         int fields = 0;
         for (Field f : c.getDeclaredFields()) {
             boolean isStatic = Modifier.isStatic(f.getModifiers());
@@ -90,7 +101,7 @@ public final class LanguageTest {
         Due.holds("some twenty fields: " + c, fields <= 20);
         for (Method m : c.getDeclaredMethods()) {
             Due.holds("seven parameters at most: " + m, m.getParameterCount() <= 7);
-            boolean isFace = Arrays.stream(FACE).anyMatch(one -> one.contains(" " + m.getName() + "("));
+            boolean isFace = face.stream().anyMatch(one -> one.contains(" " + m.getName() + "("));
             Due.holds("no other method bears a public name: " + m, !isFace || c == RateTree.class && isOpen(m));
         }
     }
